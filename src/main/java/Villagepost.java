@@ -305,7 +305,7 @@ public final class Villagepost {
             return 0;
         }
         acts++;
-        // Sent before it is done, so that sending on from the same server leaves these servers out.
+        // Sent before it is done: a server that sends it on leaves out those to which it goes in any case.
         send(act, to);
         doAt(homes[act.person], act);
         return act.sent;

@@ -6,6 +6,7 @@ public final class MovesTest {
         aliasWrong();
         move();
         moveWithin();
+        moveTellsEach();
         moveMeetsBlock();
         moveToFollower();
         moveEndsAsk();
@@ -99,6 +100,17 @@ public final class MovesTest {
         Checks.settle(x);
         Checks.due("8: follows the first one", x.between(1, 3, 0), 2);
         Checks.due("8: not the second one", x.between(1, 3, 1), 0);
+    }
+
+    private static void moveTellsEach() {
+        Villagepost x = Checks.village(0, 1, 0, 2, 2, 1);
+        for (int person = 2; person < 6; person++) {
+            Checks.makeFollower(x, person, 0);
+        }
+        x.alias(1, 0);
+        Checks.settle(x);
+        Checks.due("8: each is told, at whatever server", x.move(0, 1), 4);
+        Checks.due("8: each other server gets one packet", Checks.waiting(x), 110);
     }
 
     private static void moveMeetsBlock() {
