@@ -129,9 +129,9 @@ public final class Villagepost {
             to |= homeOf(thread);
         }
         int number = notes.size();
-        Note note = new Note(person, kind, named, thread);
+        Note note = new Note(person, kind, named, thread, to & ~homeOf(person));
         notes.add(note);
-        note.went = perform(new Act(acts, POST, person, number, 0), to);
+        perform(new Act(acts, POST, person, number, 0), note.went);
         return number;
     }
 
@@ -142,7 +142,8 @@ public final class Villagepost {
         if (atHomeOf(note.author).isMarked(post)) {
             throw new IllegalStateException("it is deleted already");
         }
-        return Integer.bitCount(perform(new Act(acts, DELETE, note.author, post, 0), note.went));
+        perform(new Act(acts, DELETE, note.author, post, 0), note.went);
+        return Integer.bitCount(note.went);
     }
 
     /** One sends a public post on to their followers. */
@@ -298,51 +299,64 @@ public final class Villagepost {
 
     // ---- acts
 
-    /** Does an act of somebody, and sends it; returns the set of servers to which it went from theirs. */
-    private int perform(Act act, int to) {
+    /** Does an act of somebody at their server, and sends it from there. */
+    private void perform(Act act, int to) {
         // What calls after the 512th do is free: an act beyond them is not kept.
         if (acts >= ACTS) {
-            return 0;
+            return;
         }
         acts++;
-        // Sent before it is done: a server that sends it on leaves out those to which it goes in any case.
-        send(act, to);
+        send(act, to & ~homeOf(act.person));
         doAt(homes[act.person], act);
-        return act.sent;
     }
 
+    /** Does an act at a server, unless it was done there already. */
     private void doAt(int server, Act act) {
-        if (servers[server].take(act)) {
-            sendOn(server, act);
+        Server place = servers[server];
+        if (place.done[act.number]) {
+            return;
         }
+        place.done[act.number] = true;
+        place.log.add(act);
+        place.knowledge.learn(act);
+        sendOn(server, act);
     }
 
-    /** A thread's server sends on what its author's followers might not get from elsewhere. */
+    /** The server of a thread sends on a public reply, and its mark to the same servers. */
     private void sendOn(int server, Act act) {
         if (act.kind != POST && act.kind != DELETE) {
             return;
         }
         Note note = notes.get(act.about);
-        if (note.thread == NONE || homes[note.thread] != server) {
+        if (note.kind != PUBLIC || note.thread == NONE || homes[note.thread] != server) {
             return;
         }
-        if (act.kind == DELETE) {
+        if (act.kind == POST) {
+            sendReplyOn(server, act, note);
+        } else {
             send(act, note.sentOn);
-        } else if (note.kind == PUBLIC) {
-            note.sentOn = send(act, homesOf(servers[server].knowledge.followersOf(note.thread)));
         }
     }
 
-    /** Sends an act to those of the servers that have not got it; returns the set of these. */
-    private int send(Act act, int to) {
-        int fresh = to & ~act.sent & ~homeOf(act.person);
+    private void sendReplyOn(int server, Act act, Note note) {
+        int followers = servers[server].knowledge.followersOf(note.thread);
+        int to = homesOf(followers) & ~bit(server) & ~homeOf(note.author);
+        if (homes[note.author] == server) {
+            // A server goes by what it sends itself: only what went from here leaves a server out.
+            to &= ~note.went;
+            note.went |= to;
+        } else {
+            note.sentOn = to;
+        }
+        send(act, to);
+    }
+
+    private void send(Act act, int to) {
         for (int server = 0; server < SERVERS; server++) {
-            if (has(fresh, server)) {
+            if (has(to, server)) {
                 servers[server].packets.add(act);
             }
         }
-        act.sent |= fresh;
-        return fresh;
     }
 
     // ---- homes, and sets of small numbers as bits
@@ -370,11 +384,11 @@ public final class Villagepost {
     }
 
     private static boolean has(int set, int number) {
-        return (set & bit(number)) != 0;
+        return (set >> number & 1) != 0;
     }
 
     private static boolean hasPost(long set, int post) {
-        return (set & 1L << post) != 0;
+        return (set >> post & 1) != 0;
     }
 
     /** Something that somebody has done. */
@@ -386,8 +400,6 @@ public final class Villagepost {
         final int about;
         // The followers that a MOVE takes along.
         final int told;
-        // The servers that have got a packet of it.
-        int sent = 0;
 
         Act(int number, int kind, int person, int about, int told) {
             this.number = number;
@@ -405,16 +417,17 @@ public final class Villagepost {
         final int named;
         // The author of the post to which it is a reply, or NONE.
         final int thread;
-        // The servers to which it went from its author's.
-        int went = 0;
-        // The servers to which it was sent on.
+        // The servers to which it went from its author's, sent on from there or not.
+        int went;
+        // The servers to which it was sent on from another one.
         int sentOn = 0;
 
-        Note(int author, int kind, int named, int thread) {
+        Note(int author, int kind, int named, int thread, int went) {
             this.author = author;
             this.kind = kind;
             this.named = named;
             this.thread = thread;
+            this.went = went;
         }
     }
 
@@ -428,17 +441,6 @@ public final class Villagepost {
 
         int waiting() {
             return packets.size() - delivered;
-        }
-
-        /** Does an act, unless it was done; tells whether it is new. */
-        boolean take(Act act) {
-            if (done[act.number]) {
-                return false;
-            }
-            done[act.number] = true;
-            log.add(act);
-            knowledge.learn(act);
-            return true;
         }
     }
 
@@ -557,7 +559,7 @@ public final class Villagepost {
         }
 
         boolean isBlockBetween(int person, int other) {
-            return isBlocking(person, other) || isBlocking(other, person);
+            return has(blocks[person], other) || has(blocks[other], person);
         }
 
         boolean isAlias(int person, int other) {

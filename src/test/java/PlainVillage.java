@@ -331,8 +331,11 @@ final class PlainVillage {
         }
         if (d.kind.equals("POST")) {
             t.sentOn = at(facts(server).followers(host));
-            t.sentOn.removeAll(t.went);
+            t.sentOn.remove(server);
             t.sentOn.remove(homes.get(t.author));
+            if (homes.get(t.author) == server) {
+                t.sentOn.removeAll(t.went);
+            }
         }
         if (d.kind.equals("POST") || d.kind.equals("DELETE") && server != homes.get(t.author)) {
             for (int to : t.sentOn) {

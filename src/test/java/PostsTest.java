@@ -7,6 +7,7 @@ public final class PostsTest {
         postFull();
         replies();
         replySentOn();
+        replySentOnAfterItsMark();
         replySentOnFromHome();
         replySentOnThoughMarked();
         replyNotSentOn();
@@ -115,23 +116,57 @@ public final class PostsTest {
         x.post(1, Villagepost.PUBLIC, 0, 0);
         Checks.due("9: to the author and the followers", Checks.waiting(x), 1010);
         Checks.due("9: packet", x.deliver(0), Villagepost.POST);
-        Checks.due("9: sent on where it does not go in any case", Checks.waiting(x), 11);
+        Checks.due("9: sent on to all followers' servers but the reply's own", Checks.waiting(x), 21);
         Checks.due("9: repeated", x.repeat(0), Villagepost.POST);
-        Checks.due("9: not sent on again", Checks.waiting(x), 11);
+        Checks.due("9: not sent on again", Checks.waiting(x), 21);
         Checks.due("9: packet", x.deliver(3), Villagepost.POST);
         Checks.due("9: seen there", x.sees(3, 1), true);
         Checks.due("9: not at home there", x.home(3, 0), 0);
-        Checks.due("9: not sent on from elsewhere", Checks.waiting(x), 10);
+        Checks.due("9: not sent on from elsewhere", Checks.waiting(x), 20);
+        x.deliver(2);
+        long done = x.ofServer(2, 1);
+        Checks.due("9: from the server of the thread too", x.deliver(2), Villagepost.POST);
+        Checks.due("9: not done there again", x.ofServer(2, 1), done);
+        Checks.due("10: from its author's to two", x.delete(1), 2);
+        Checks.due("10: to these", Checks.waiting(x), 1010);
+        x.deliver(0);
+        Checks.due("10: sent on to all the same servers", Checks.waiting(x), 21);
+        Checks.settle(x);
+        Checks.due("10: marked once", x.ofServer(2, 3), 1);
+        Checks.due("10: not seen there", x.sees(3, 1), false);
+    }
+
+    private static void replySentOnAfterItsMark() {
+        // The server of the thread is slow: the reply that it sends on comes to server 2 behind the mark.
+        Villagepost x = Checks.village(0, 1, 2);
+        Checks.makeFollower(x, 2, 0);
+        Checks.makeFollower(x, 2, 1);
+        x.post(0, Villagepost.PUBLIC, 2, -1);
+        Checks.settle(x);
+        x.post(1, Villagepost.PUBLIC, 0, 0);
+        x.deliver(2);
+        x.delete(1);
+        x.deliver(2);
+        Checks.due("10: marked there", x.ofServer(2, 3), 1);
+        x.deliver(0);
+        Checks.due("9: sent on", Checks.waiting(x), 1010);
+        Checks.due("9: packet", x.deliver(2), Villagepost.POST);
+        Checks.due("10: never known again", x.sees(2, 1), false);
+        x.deliver(0);
+        Checks.due("10: the mark sent on", x.deliver(2), Villagepost.DELETE);
+        Checks.due("10: marked once", x.ofServer(2, 3), 1);
     }
 
     private static void replySentOnFromHome() {
-        Villagepost x = Checks.village(0, 0, 1, 2);
+        // 3 follows 1, 2 and 4 follow 0, and 3 and 4 are at one server, to which it goes in any case.
+        Villagepost x = Checks.village(0, 0, 1, 2, 2);
         Checks.makeFollower(x, 2, 0);
         Checks.makeFollower(x, 3, 1);
+        Checks.makeFollower(x, 4, 0);
         x.post(0, Villagepost.PUBLIC, 0, -1);
         Checks.settle(x);
         x.post(1, Villagepost.PUBLIC, 0, 0);
-        Checks.due("9: sent on at once", Checks.waiting(x), 110);
+        Checks.due("9: sent on at once, once a server", Checks.waiting(x), 110);
         Checks.settle(x);
         Checks.due("9: seen there", x.sees(2, 1), true);
         Checks.due("10: goes to both", x.delete(1), 2);
@@ -142,7 +177,7 @@ public final class PostsTest {
 
         // One's own thread: the followers get it in any case.
         x.post(0, Villagepost.PUBLIC, 0, 0);
-        Checks.due("9: once a server", Checks.waiting(x), 100);
+        Checks.due("9: once a server", Checks.waiting(x), 110);
     }
 
     private static void replySentOnThoughMarked() {
