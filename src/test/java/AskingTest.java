@@ -13,33 +13,27 @@ public final class AskingTest {
         Checks.finish("AskingTest");
     }
 
-    private static void numbers(Villagepost x, int server, int... want) {
-        for (int what = 0; what < 6; what++) {
-            Checks.due("14: number " + what + " of server " + server, x.ofServer(server, what), want[what]);
-        }
-    }
-
     private static void ofServer() {
         Villagepost x = Checks.village(0, 1, 2);
         x.follow(1, 0);
         x.follow(2, 0);
         x.follow(0, 1);
-        numbers(x, 0, 2, 1, 0, 0, 0, 1);
-        numbers(x, 1, 1, 1, 0, 0, 0, 1);
+        Checks.numbers("14", x, 0, 2, 1, 0, 0, 0, 1);
+        Checks.numbers("14", x, 1, 1, 1, 0, 0, 0, 1);
         Checks.settle(x);
-        numbers(x, 0, 0, 3, 0, 0, 0, 3);
+        Checks.numbers("14", x, 0, 0, 3, 0, 0, 0, 3);
         x.answer(0, 1, true);
-        numbers(x, 0, 0, 4, 0, 0, 1, 2);
+        Checks.numbers("14", x, 0, 0, 4, 0, 0, 1, 2);
         x.post(0, 0, 0, -1);
         x.post(0, 2, 2, -1);
         x.post(0, 2, 0, -1);
         x.delete(1);
-        numbers(x, 0, 0, 8, 2, 1, 1, 2);
-        numbers(x, 1, 4, 2, 0, 0, 0, 2);
+        Checks.numbers("14", x, 0, 0, 8, 2, 1, 1, 2);
+        Checks.numbers("14", x, 1, 4, 2, 0, 0, 0, 2);
         Checks.settle(x);
-        numbers(x, 1, 0, 6, 1, 1, 1, 1);
-        numbers(x, 2, 0, 1, 0, 0, 0, 1);
-        numbers(x, 3, 0, 0, 0, 0, 0, 0);
+        Checks.numbers("14", x, 1, 0, 6, 1, 1, 1, 1);
+        Checks.numbers("14", x, 2, 0, 1, 0, 0, 0, 1);
+        Checks.numbers("14", x, 3, 0, 0, 0, 0, 0, 0);
     }
 
     private static void ofServerWrong() {

@@ -10,16 +10,32 @@ final class Checks {
 
     private static int checked = 0;
     private static int wrong = 0;
+    private static int sentences = 0;
+    // The sentence that the checks hold now, for what is printed; empty as long as none was named.
+    private static String sentence = "";
+    private static int checkedBefore = 0;
 
     private Checks() {
     }
 
-    static void due(String what, long got, long want) {
-        checked++;
-        if (got != want) {
+    /** The checks from here on hold this sentence of the document, word for word. */
+    static void holds(String where, String words) {
+        endSentence();
+        sentences++;
+        sentence = where + ", \"" + words + "\": ";
+        checkedBefore = checked;
+    }
+
+    /** A sentence that was named and then not checked is wrong. */
+    private static void endSentence() {
+        if (!sentence.isEmpty() && checked == checkedBefore) {
             wrong++;
-            System.out.println(what + ": answered " + got + ", due is " + want);
+            System.out.println(sentence + "nothing was checked");
         }
+    }
+
+    static void due(String what, long got, long want) {
+        due(what, "" + got, "" + want);
     }
 
     static void due(String what, boolean got, boolean want) {
@@ -30,7 +46,7 @@ final class Checks {
         checked++;
         if (!got.equals(want)) {
             wrong++;
-            System.out.println(what + ": answered " + got + ", due is " + want);
+            System.out.println(sentence + what + ": answered " + got + ", due is " + want);
         }
     }
 
@@ -76,22 +92,46 @@ final class Checks {
         due(what + ", home of " + person + " behind the last", x.home(person, posts.length), Villagepost.NONE);
     }
 
+    /** The next packets to a server must hold acts of these kinds. */
+    static void delivers(Villagepost x, int server, int... kinds) {
+        for (int kind : kinds) {
+            due("packet at " + server, x.deliver(server), kind);
+        }
+    }
+
+    /** The six numbers of a server: packets, acts, known posts, marks, follows, asks. */
+    static void numbers(String what, Villagepost x, int server, int... want) {
+        for (int number = 0; number < want.length; number++) {
+            due(what + ", number " + number + " of server " + server, x.ofServer(server, number), want[number]);
+        }
+    }
+
     /** How many packets wait at the servers 0 to 3, as four digits. */
     static long waiting(Villagepost x) {
         return x.ofServer(0, 0) * 1000 + x.ofServer(1, 0) * 100 + x.ofServer(2, 0) * 10 + x.ofServer(3, 0);
     }
 
-    private static String thrownBy(Call call) {
+    /** The simple name of what a call throws. */
+    static String thrownBy(Call call) {
         try {
             call.run();
             return "nothing";
         } catch (RuntimeException e) {
-            return e.getClass().getSimpleName();
+            return nameOf(e);
         }
     }
 
+    /** The simple name of an exception; one that the library has thrown, not the class itself, is named as such. */
+    static String nameOf(RuntimeException e) {
+        StackTraceElement[] trace = e.getStackTrace();
+        boolean own = trace.length > 0 && trace[0].getClassName().startsWith("Villagepost");
+        return e.getClass().getSimpleName() + (own ? "" : " by itself");
+    }
+
     static void finish(String test) {
-        System.out.println(test + ": " + checked + " checks, " + wrong + " wrong");
+        endSentence();
+        String held = sentences == 0 ? "" : sentences + " sentences, ";
+        System.out.println(test + ": " + held + checked + " checks, " + wrong + " wrong");
         if (wrong != 0) {
             System.exit(1);
         }

@@ -39,7 +39,7 @@ public final class RandomRunsTest {
         try {
             got = "" + answer.get();
         } catch (RuntimeException e) {
-            got = e.getClass().getSimpleName();
+            got = Checks.nameOf(e);
         }
         Checks.due(run + call, got, want);
     }
@@ -53,7 +53,7 @@ public final class RandomRunsTest {
         try {
             done.run();
         } catch (RuntimeException e) {
-            got = e.getClass().getSimpleName();
+            got = Checks.nameOf(e);
         }
         Checks.due(run + call, got, want);
     }
@@ -223,7 +223,8 @@ public final class RandomRunsTest {
                     default -> x.home(a, p);
                 }
             } catch (IndexOutOfBoundsException | IllegalArgumentException | IllegalStateException e) {
-                Checks.due(run + "call " + call + " throws by itself", e.getClass().getSimpleName().startsWith("Array"), false);
+                String name = Checks.nameOf(e);
+                Checks.due(run + "call " + call + " throws " + name + " itself", name.startsWith("Array") || name.contains(" "), false);
             }
         }
     }
