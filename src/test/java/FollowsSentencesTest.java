@@ -5,6 +5,7 @@ public final class FollowsSentencesTest {
         followUnlessFollowing();
         accept();
         acceptIfTheAskIsThere();
+        answerOfAnEarlierAsk();
         refuse();
         leave();
         blockTakesAway();
@@ -131,6 +132,39 @@ public final class FollowsSentencesTest {
         Checks.delivers(z, 0, Villagepost.MOVE, Villagepost.ACCEPT);
         between("follows already", z, 0, 0, 1, 2);
         Checks.due("one follow", z.ofServer(0, 4), 1);
+    }
+
+    /** An answer meets the ask that is known where it comes, also where that was taken back and asked anew. */
+    private static void answerOfAnEarlierAsk() {
+        Checks.holds("Terms; promise 4", "What follows is as a server knows it: what was done there.");
+        Villagepost x = askedAnew(true);
+        Checks.delivers(x, 0, Villagepost.ACCEPT);
+        everywhere("an ask is there", x, 0, 1, 2200);
+        Checks.delivers(x, 1, Villagepost.LEAVE);
+        everywhere("left, as the other server knows", x, 0, 1, 2000);
+        Checks.delivers(x, 1, Villagepost.FOLLOW);
+        everywhere("asked anew, as the other server knows", x, 0, 1, 2100);
+        x.answer(1, 0, true);
+        Checks.delivers(x, 0, Villagepost.ACCEPT);
+        everywhere("accepted anew", x, 0, 1, 2200);
+
+        Villagepost y = askedAnew(false);
+        Checks.delivers(y, 0, Villagepost.REFUSE);
+        everywhere("the ask that is there is taken away", y, 0, 1, 0);
+        Checks.delivers(y, 1, Villagepost.LEAVE, Villagepost.FOLLOW);
+        everywhere("asked anew, as the other server knows", y, 0, 1, 100);
+    }
+
+    /** 0 at server 0 asked 1 at server 1, who answered; before that comes, 0 has left and asked anew. */
+    private static Villagepost askedAnew(boolean accepted) {
+        Villagepost x = Checks.village(0, 1);
+        x.follow(0, 1);
+        Checks.delivers(x, 1, Villagepost.FOLLOW);
+        x.answer(1, 0, accepted);
+        x.leave(0, 1);
+        x.follow(0, 1);
+        everywhere("asks anew", x, 0, 1, accepted ? 1200 : 1000);
+        return x;
     }
 
     /** 0 at server 0 asks 1 at server 1; 2 moves to 1, with 0, which neither server knows yet. */

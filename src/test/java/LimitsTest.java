@@ -15,6 +15,7 @@ public final class LimitsTest {
         eachPersonIsTheirOwn();
         calls();
         lastCalls();
+        laterCalls();
         Checks.finish("LimitsTest");
     }
 
@@ -354,5 +355,39 @@ public final class LimitsTest {
         Checks.due("is deleted at the 512th", w.delete(0), 0);
         Checks.refused("refused at the 512th", Checks.ARGUMENT, () -> afterAliases(2, 511).follow(0, 0));
         Checks.refused("not refused at the 512th", "nothing", () -> afterAliases(2, 511).follow(0, 1));
+    }
+
+    /** What these calls answer is free, but not that the machine throws in them. */
+    private static void laterCalls() {
+        Checks.holds("What it is", "what later calls answer is free");
+        for (int calls = 510; calls < 520; calls++) {
+            Villagepost x = afterAliases(2, calls);
+            x.person(1);
+            endsWell("post", () -> x.post(0, Villagepost.PUBLIC, 4, NONE));
+            endsWell("reply", () -> x.post(1, Villagepost.PUBLIC, 4, 0));
+            endsWell("boost", () -> x.boost(1, 0));
+            endsWell("delete", () -> x.delete(0));
+            endsWell("follow", () -> x.follow(0, 2));
+            endsWell("leave", () -> x.leave(0, 2));
+            endsWell("follow, within a server", () -> x.follow(0, 1));
+            endsWell("answer", () -> x.answer(1, 0, true));
+            endsWell("alias", () -> x.alias(2, 0));
+            endsWell("block", () -> x.block(0, 2, true));
+            endsWell("unblock", () -> x.block(0, 2, false));
+            endsWell("move", () -> x.move(0, 1));
+            endsWell("deliver", () -> x.deliver(1));
+            endsWell("repeat", () -> x.repeat(1));
+            endsWell("seesAnew", () -> x.seesAnew(0, 0));
+            endsWell("home", () -> x.home(0, 0));
+            endsWell("sees", () -> x.sees(0, 0));
+            endsWell("between", () -> x.between(0, 0, 1));
+            endsWell("ofServer", () -> x.ofServer(0, 1));
+        }
+    }
+
+    private static void endsWell(String what, Checks.Call call) {
+        String thrown = Checks.thrownBy(call);
+        boolean own = thrown.equals("nothing") || thrown.equals(Checks.BOUNDS) || thrown.equals(Checks.STATE);
+        Checks.due(what + " ends with " + thrown, own, true);
     }
 }

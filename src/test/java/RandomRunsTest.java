@@ -201,6 +201,10 @@ public final class RandomRunsTest {
         for (int i = 0; i < 10; i++) {
             x.person(random.nextInt(4));
         }
+        // So that the 512th act comes early, with much of what follows behind it.
+        for (int i = 0; i < 400; i++) {
+            x.alias(i % 10, (i + 1) % 10);
+        }
         for (int call = 0; call < 3000; call++) {
             int a = random.nextInt(11);
             int b = random.nextInt(10);
